@@ -56,7 +56,6 @@ public final class LeftSkate {
             past[i] = new Moment();
         }
         now.restart(FIRST_SIZE, FIRST_SIZE);
-        kept.restart(FIRST_SIZE, FIRST_SIZE);
     }
 
     // ---- what is told
@@ -345,8 +344,8 @@ public final class LeftSkate {
         if (what != 0 && (i < 0 || i >= router.count)) {
             return NONE;
         }
-        router.weigh(now.moment.place, now.skaters);
-        return what == 0 ? router.share(router.all()) : router.taker(i);
+        router.begin(now.moment.place, now.skaters);
+        return what == 0 ? router.longest() : router.taker(i);
     }
 
     public int beneath(int letter, int cell) {
@@ -627,6 +626,7 @@ public final class LeftSkate {
         final int[] count = new int[MOST_SKATERS];
         /** What happens to the skate behind the last step. */
         final int[] tail = new int[MOST_SKATERS];
+        /** 1 of each who is told in the text that is being read. */
         final int[] isTold = new int[MOST_SKATERS];
         int told = 0;
 
@@ -641,7 +641,6 @@ public final class LeftSkate {
             System.arraycopy(other.steps, 0, steps, 0, steps.length);
             System.arraycopy(other.count, 0, count, 0, MOST_SKATERS);
             System.arraycopy(other.tail, 0, tail, 0, MOST_SKATERS);
-            System.arraycopy(other.isTold, 0, isTold, 0, MOST_SKATERS);
             told = other.told;
         }
 
@@ -1211,8 +1210,6 @@ public final class LeftSkate {
         void clear() {
             Arrays.fill(depth, 0);
             Arrays.fill(latest, NONE);
-            Arrays.fill(done, 0);
-            Arrays.fill(down, 1);
             minute = 0;
             lines = 0;
         }
@@ -1521,18 +1518,21 @@ public final class LeftSkate {
     /** Shortest routes over a set of cells, for one skater or shared among all. */
     private static final class Router {
         private static final int SETS = 1 << MOST_TOURED;
-        private static final int NEVER = 1000000;
+        /** More than any steps, and than any takers read as digits. */
+        private static final int NEVER = 100000000;
 
         final int[] cells = new int[MOST_TOURED];
         int count = 0;
         /** For each set and each of its cells the fewest steps over the set beginning there. */
         final int[] tours = new int[SETS * MOST_TOURED];
         int skaters = 0;
-        /** For each skater and each set the fewest steps over the set from where he is. */
-        final int[] costs = new int[MOST_SKATERS * SETS];
-        /** What each skater is to visit already. */
-        final int[] shares = new int[MOST_SKATERS];
-        final int[] longest = new int[SETS];
+        final int[] places = new int[MOST_SKATERS];
+        /** For each set the fewest steps of the skater who is looked at. */
+        final int[] costs = new int[SETS];
+        /** For each set what is least if it is shared among the skaters looked at so far. */
+        final int[] least = new int[SETS];
+        /** For each set the digits 1 of its cells, the first cell's highest. */
+        final int[] digits = new int[SETS];
 
         /** False if there are too many cells. */
         boolean take(long set) {
@@ -1600,62 +1600,82 @@ public final class LeftSkate {
             return cell;
         }
 
-        /** What the routes of each skater would cost him; none has anything to visit yet. */
-        void weigh(int[] places, int howMany) {
+        void begin(int[] from, int howMany) {
             skaters = Math.min(howMany, MOST_SKATERS);
-            for (int s = 0; s < skaters; s++) {
-                shares[s] = 0;
-                for (int set = 0; set <= all(); set++) {
-                    costs[s * SETS + set] = lead(places[s], set);
-                }
-            }
+            System.arraycopy(from, 0, places, 0, skaters);
         }
 
-        /** The least that the longest route can be when what is left is shared out, too. */
-        int share(int left) {
-            Arrays.fill(longest, NEVER);
-            longest[0] = 0;
+        /** The least that the longest route can be when all cells are shared out. */
+        int longest() {
+            Arrays.fill(least, NEVER);
+            least[0] = 0;
             for (int s = 0; s < skaters; s++) {
+                fillCosts(s);
                 // from the greatest set down: what a smaller one holds is of the skaters ahead of this one
-                for (int set = left; set > 0; set = set - 1 & left) {
-                    longest[set] = leastLongest(s, set);
+                for (int set = all(); set >= lastNeeded(s); set--) {
+                    least[set] = leastLongest(set);
                 }
-                longest[0] = leastLongest(s, 0);
             }
-            return longest[left];
+            return least[all()];
         }
 
-        private int leastLongest(int s, int set) {
-            int base = s * SETS;
-            int least = Math.max(costs[base + shares[s]], longest[set]);
-            for (int part = set; part > 0; part = part - 1 & set) {
-                int steps = Math.max(costs[base + (shares[s] | part)], longest[set & ~part]);
-                least = Math.min(least, steps);
-            }
-            return least;
-        }
-
-        /** Who goes to the i-th cell. */
+        /** Who goes to the i-th cell: of the ways to share the takers, read as digits, are to be the least number. */
         int taker(int i) {
-            int best = share(all());
-            int left = all();
-            int who = NONE;
-            for (int k = 0; k <= i; k++) {
-                left &= ~(1 << k);
-                who = give(k, left, best);
+            int steps = longest();
+            fillDigits();
+            Arrays.fill(least, NEVER);
+            least[0] = 0;
+            for (int s = 0; s < skaters; s++) {
+                fillCosts(s);
+                for (int set = all(); set >= lastNeeded(s); set--) {
+                    least[set] = leastTakers(s, set, steps);
+                }
             }
-            return who;
+            int digit = digits[1 << i];
+            return digit > 0 ? least[all()] / digit % MOST_SKATERS : NONE;
         }
 
-        private int give(int cell, int left, int best) {
-            for (int s = 0; s < skaters; s++) {
-                shares[s] |= 1 << cell;
-                if (costs[s * SETS + shares[s]] <= best && share(left) <= best) {
-                    return s;
-                }
-                shares[s] &= ~(1 << cell);
+        /** Behind the last skater none but the whole set is asked for. */
+        private int lastNeeded(int s) {
+            return s == skaters - 1 ? all() : 0;
+        }
+
+        private void fillCosts(int s) {
+            for (int set = 0; set <= all(); set++) {
+                costs[set] = lead(places[s], set);
             }
-            return NONE;
+        }
+
+        private void fillDigits() {
+            digits[0] = 0;
+            int digit = 1;
+            for (int i = count - 1; i >= 0; i--) {
+                digits[1 << i] = digit;
+                digit *= MOST_SKATERS;
+            }
+            for (int set = 1; set <= all(); set++) {
+                int rest = set & set - 1;
+                digits[set] = digits[rest] + digits[set & ~rest];
+            }
+        }
+
+        private int leastLongest(int set) {
+            int best = Math.max(costs[0], least[set]);
+            // what is left of part - 1 in the set is the next part below it
+            for (int part = set; part > 0; part = part - 1 & set) {
+                best = Math.min(best, Math.max(costs[part], least[set & ~part]));
+            }
+            return best;
+        }
+
+        private int leastTakers(int s, int set, int steps) {
+            int best = least[set];
+            for (int part = set; part > 0; part = part - 1 & set) {
+                if (costs[part] <= steps) {
+                    best = Math.min(best, least[set & ~part] + s * digits[part]);
+                }
+            }
+            return best;
         }
     }
 

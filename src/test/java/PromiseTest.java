@@ -229,6 +229,13 @@ public final class PromiseTest {
         due.fault(x, 0, "skater ;", 1, 7);
         due.fault(x, 0, "Skater 0;", 1, 0);
         due.fault(x, 0, "skaters 0;", 1, 0);
+        due.fault(x, 0, "skaterz 0;", 1, 0);
+        due.fault(x, 0, "skaterA 0;", 1, 0);
+        due.fault(x, 0, "skaterZ 0;", 1, 0);
+        due.fault(x, 0, "skater` 0;", 1, 6);
+        due.fault(x, 0, "skater{ 0;", 1, 6);
+        due.fault(x, 0, "skater@ 0;", 1, 6);
+        due.fault(x, 0, "skater[ 0;", 1, 6);
         due.fault(x, 0, "skater 0 cut 1;", 1, 9);
         due.fault(x, 0, "skater 0 eastX 1;", 1, 9);
         due.fault(x, 0, "skater 0 east 00001;", 1, 14);
@@ -415,6 +422,10 @@ public final class PromiseTest {
         LeftSkate y = new LeftSkate();
         y.skater(1, 0);
         Due.tell(y, 0, "skater 0 east 1;");
+        y.set(1, 0, 1);
+        y.minutes(1);
+        due.is("falls of 1: a draw", y.look(7), 1013904223);
+        y.undo();
         y.set(1, 0, drawn);
         due.is("a draw that is not below", y.minutes(1), 0);
         y.undo();
@@ -773,7 +784,7 @@ public final class PromiseTest {
         due.is("route, no cell", x.route(0, 1L << 56, 0), NONE);
         due.is("route, no cell", x.route(0, -1L, 0), NONE);
         due.is("route, no cell", x.route(0, Long.MIN_VALUE, 0), NONE);
-        due.is("route, ten", x.route(0, 1023 & ~256 | 3 << 16, 0), NONE);
+        due.is("route, ten", x.route(0, 1023, 0), NONE);
         due.is("route, nine", x.route(0, 511, 0), 3 + 1 + 7);
         due.is("route, another what", x.route(0, 3, 1), NONE);
         due.is("route, another what", x.route(0, 3, 9), NONE);
@@ -811,7 +822,7 @@ public final class PromiseTest {
         due.is("soonest of none", x.soonest(0, 0), 0);
         due.is("soonest of none", x.soonest(0, 10), NONE);
         due.is("soonest, no cell", x.soonest(1L << 60, 0), NONE);
-        due.is("soonest, ten", x.soonest(1023 & ~256 | 3 << 16, 0), NONE);
+        due.is("soonest, ten", x.soonest(1023, 0), NONE);
         due.is("soonest, another what", x.soonest(3, 1), NONE);
         due.is("soonest, another what", x.soonest(3, 12), NONE);
         due.is("soonest, another what", x.soonest(3, Integer.MIN_VALUE), NONE);
@@ -825,7 +836,13 @@ public final class PromiseTest {
         due.is("soonest of one", x.soonest(set(27), 0), 6);
         due.is("soonest of one", x.soonest(set(27), 10), 0);
         due.is("soonest of two", x.soonest(set(27, 36), 0), 6);
-        due.is("soonest of nine", x.soonest(set(1, 2, 3, 4, 5, 6, 8, 15, 56 - 8), 0), 5);
+        long nine = set(1, 2, 3, 4, 5, 6, 8, 15, 48);
+        int[] takers = {0, 0, 0, 0, 0, 1, 2, 1, 2};
+        due.is("soonest of nine", x.soonest(nine, 0), 5);
+        for (int i = 0; i < 9; i++) {
+            due.is("soonest of nine: " + i, x.soonest(nine, 10 + i), takers[i]);
+        }
+        due.is("soonest of nine, a tenth", x.soonest(nine, 19), NONE);
     }
 
     // ---- 23
