@@ -18,6 +18,15 @@ final class Due {
         is(what, got ? 1L : 0L, due ? 1L : 0L);
     }
 
+    /** Nothing that an object tells of itself has changed. */
+    void same(String what, Snapshot was, Snapshot now) {
+        String differs = was.differs(now);
+        if (!differs.isEmpty()) {
+            wrong++;
+            System.out.println(test + ": " + what + " changed something: " + differs);
+        }
+    }
+
     void end() {
         System.out.println(test + ": " + (wrong == 0 ? "all as due" : wrong + " not as due"));
         if (wrong > 0) {
