@@ -185,6 +185,15 @@ public final class BoundsBasinTest {
         due.is("told anew: and has done none", x.of(0, 3), 0);
         due.is("told anew: his skate is down", x.of(0, 4), 1);
         due.is("told anew: no law", x.cut(0, 9), 2);
+        LeftSkate y = made(6, 6);
+        y.skater(1, 0);
+        Due.tell(y, 0, "skater 0 lift east 3;");
+        y.minutes(2);
+        y.basin(6, 6);
+        y.skater(1, 0);
+        due.is("of an earlier SKATER's steps none are done", y.of(0, 3), 0);
+        due.is("none are left", y.of(0, 2), 0);
+        due.is("his skate is not lifted", y.of(0, 4), 1);
     }
 
     /** All of it told, some of it happened, the latest text with a fault, ten bytes on the tape. */

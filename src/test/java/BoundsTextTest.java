@@ -297,6 +297,16 @@ public final class BoundsTextTest {
         }
         x.minutes(1);
         due.is("he cuts", x.at(3, 0), 2);
+        // what stood behind the last step of another text is gone, of one with a FAULT, too
+        String[] ahead = {"skater 1 east 1 lift;", "skater 1 lift;", "skater 1 east 1 lift"};
+        for (String text : ahead) {
+            LeftSkate y = made(6, 6, 2);
+            Due.tell(y, WAYS, text);
+            due.lines(y, WAYS, "skater 1 south 1;", 1);
+            y.minutes(1);
+            due.is("he cuts behind " + text, y.at(8, 0), 2);
+            due.is("his skate behind " + text, y.of(1, 4), 1);
+        }
     }
 
     // "3 (at its KEYWORD) the 17th line of THE LAW"
@@ -839,6 +849,9 @@ public final class BoundsTextTest {
         due.is("another's", x.cut(1, 1), 4);
         due.is("another's", x.cut(2, 1), 4);
         due.is("thaw is never crossed", x.at(1, 3), 0);
+        due.lines(x, LAW, "cut crossed+3;thaw crossed+1;", 2);
+        due.is("crossed is 0 for a thaw, not less", x.at(1, 3), 1);
+        due.is("of a CELL that nobody cut, too", x.at(9, 3), 1);
         due.lines(x, WAYS, "skater 2 east 1;", 1);
         x.minutes(1);
         due.is("not his own any more", x.cut(0, 1), 4);

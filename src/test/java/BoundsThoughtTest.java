@@ -40,6 +40,7 @@ public final class BoundsThoughtTest {
         holdsOfSeveral();
         partsBounds();
         partsOfRims();
+        partsByTryingAllBars();
         yetBounds();
         yetDownwards();
         yet0AtLeast();
@@ -237,6 +238,18 @@ public final class BoundsThoughtTest {
         due.is("but he falls", x.minutes(1), 1);
         due.is("where he fell", x.goes(0), set(0));
         due.is("and goes on in thought", x.goes(1), set(0, 1));
+        // a fall would leave the LETTER as it is, the step spoils it
+        LeftSkate y = made(6, 6, 9);
+        tell(y, 2, "letter 0 2 0;letter 0 6 0;");
+        tell(y, 3, "want 0 at 0;want 1 at 0;want 1 at 0;");
+        tell(y, 0, "skater 0 east 1;");
+        y.set(2, 9, 1);
+        y.set(1, 0, 1000);
+        due.is("SPOILT by FALLS of 1000", y.spoilt(0), 1);
+        due.is("which WANT by FALLS of 1000", y.spoilt(1), 0);
+        due.is("WANTS by FALLS of 1000", y.wants(1), 2);
+        due.is("no draw for them", y.look(7), 0);
+        due.is("no line for them", y.look(6), 0);
     }
 
     // "GOES of n (0 .. 99) MINUTES"
@@ -754,6 +767,68 @@ public final class BoundsThoughtTest {
         due.is("3 by 3, a corner and the midst", y.parts(0, 9), 2);
         LeftSkate z = made(3, 7);
         due.is("3 wide: a row", z.parts(9, 33), 3);
+    }
+
+    // "the fewest other CELLS that must be barred so that no way leads from one to the other (side by side)"
+    private static void partsByTryingAllBars() {
+        int[][] sizes = {{3, 3}, {4, 3}, {3, 7}, {8, 3}, {4, 4}, {5, 4}, {4, 7}, {5, 5}};
+        for (int[] size : sizes) {
+            int w = size[0];
+            int all = w * size[1];
+            for (int a = 0; a < all; a++) {
+                LeftSkate x = made(w, size[1]);
+                for (int b = 0; b < all; b++) {
+                    boolean apart = Math.abs(a % w - b % w) + Math.abs(a / w - b / w) > 1;
+                    String call = w + " by " + size[1] + ": parts(" + told(a, w) + ", " + told(b, w) + ")";
+                    due.is(call, x.parts(told(a, w), told(b, w)), apart ? fewestBars(size, a, b) : NONE);
+                }
+            }
+        }
+    }
+
+    /** The CELL that stands at that place when all are counted row by row. */
+    private static int told(int place, int w) {
+        return 8 * (place / w) + place % w;
+    }
+
+    private static int fewestBars(int[] size, int a, int b) {
+        for (int bars = 0; bars < 4; bars++) {
+            if (canPart(size, a, b, bars, 0, 0)) {
+                return bars;
+            }
+        }
+        // no CELL has more beside it
+        return 4;
+    }
+
+    private static boolean canPart(int[] size, int a, int b, int bars, int from, int barred) {
+        if (bars == 0) {
+            return !leads(size, a, b, barred);
+        }
+        for (int c = from; c < size[0] * size[1]; c++) {
+            if (c != a && c != b && canPart(size, a, b, bars - 1, c + 1, barred | 1 << c)) {
+                return true;
+            }
+        }
+        return false;
+    }
+
+    private static boolean leads(int[] size, int a, int b, int barred) {
+        int w = size[0];
+        int left = 0;
+        int right = 0;
+        for (int y = 0; y < size[1]; y++) {
+            left |= 1 << y * w;
+            right |= 1 << y * w + w - 1;
+        }
+        int open = (1 << w * size[1]) - 1 & ~barred;
+        int reached = 0;
+        int next = 1 << a;
+        while (next != reached && (next >> b & 1) == 0) {
+            reached = next;
+            next |= (reached << w | reached >>> w | (reached & ~right) << 1 | (reached & ~left) >>> 1) & open;
+        }
+        return (next >> b & 1) == 1;
     }
 
     // "n (1 .. 99)", "(p 0 .. 1000)"
