@@ -47,6 +47,7 @@ public final class BoundsThoughtTest {
         crossedBounds();
         heardBounds();
         undoSix();
+        undoSixAmongUndone();
         undoNothing();
         undoStateAndBook();
         undoForgotten();
@@ -977,6 +978,30 @@ public final class BoundsThoughtTest {
             due.is("MINUTE yet", x.look(2), minutes - kept);
             due.is("look(12) yet", x.look(12), 0);
         }
+    }
+
+    // "the latest MINUTE not undone yet .. 6 are kept": of those before an undo and those behind it
+    private static void undoSixAmongUndone() {
+        LeftSkate x = made(6, 6, 0);
+        tell(x, 0, "skater 0 east 5 south 5;");
+        tell(x, 1, "cut 1;");
+        x.minutes(4);
+        x.undo();
+        x.undo();
+        x.minutes(5);
+        due.is("2 and 5 MINUTES: six", x.look(12), 6);
+        for (int minute = 6; minute >= 1; minute--) {
+            due.is("undone", x.undo(), true);
+            due.is("back at MINUTE " + minute, x.look(2), minute);
+            due.is("as many steps are done", x.of(0, 3), minute);
+            due.is("as many lines", x.look(6), minute);
+            due.is("as many CELLS are SEEN", x.look(13), minute);
+        }
+        due.is("the first one is not kept", x.undo(), false);
+        x.minutes(60);
+        due.is("60 MINUTES: six", x.look(12), 6);
+        x.undo();
+        due.is("the latest of them", x.look(2), 60);
     }
 
     // "true; false if there is nothing"
