@@ -923,39 +923,33 @@ public final class LeftSkate {
         /** Products are joined at once, sums when the next product has ended. */
         private boolean parseSum(Tape tape) {
             boolean times = false;
+            boolean parts = false;
             int pending = NONE;
             for (int i = 0; i < TAPE_BYTES; i++) {
-                int fact = factTold(tape);
-                if (fact == NONE && !tape.isNumber()) {
-                    return tape.fail(1);
+                if (parts) {
+                    int by = tape.number(1, 9999);
+                    if (by == NONE) {
+                        return false;
+                    }
+                    emit(PART, by);
+                } else {
+                    int fact = factTold(tape);
+                    if (fact == NONE && !tape.isNumber()) {
+                        return tape.fail(1);
+                    }
+                    emit(fact == NONE ? PUT : FACT, fact == NONE ? tape.value : fact);
+                    emitIf(times, TIMES);
                 }
-                emit(fact == NONE ? PUT : FACT, fact == NONE ? tape.value : fact);
                 tape.next();
-                emitIf(times, TIMES);
-                if (!parseParts(tape)) {
-                    return false;
-                }
                 times = tape.isSign('*');
-                if (!times) {
+                parts = tape.isSign('/');
+                if (!times && !parts) {
                     emitIf(pending != NONE, pending);
                     pending = tape.isSign('+') ? PLUS : tape.isSign('-') ? MINUS : NONE;
+                    if (pending == NONE) {
+                        return true;
+                    }
                 }
-                if (!times && pending == NONE) {
-                    return true;
-                }
-                tape.next();
-            }
-            return true;
-        }
-
-        private boolean parseParts(Tape tape) {
-            for (int i = 0; i < TAPE_BYTES && tape.isSign('/'); i++) {
-                tape.next();
-                int by = tape.number(1, 9999);
-                if (by == NONE) {
-                    return false;
-                }
-                emit(PART, by);
                 tape.next();
             }
             return true;
