@@ -23,11 +23,13 @@ public final class BoundsTextTest {
         whoIsNotTold();
         allBeginAnew();
         sixteenLines();
+        eachOfSixteenLines();
         partsByNumbers();
         nineOpen();
         notTakesOneC();
         andAheadOfOr();
         comparisons();
+        faultsBehindAComparison();
         whatALawMayNot();
         intsWrap();
         towards0();
@@ -321,6 +323,26 @@ public final class BoundsTextTest {
         due.is("16 lines yet", x.look(9), 16);
     }
 
+    // "E of the first line with that word": each line keeps its word, its E and its B, the 16th as well as the first
+    private static void eachOfSixteenLines() {
+        String[] words = {"cut", "thaw"};
+        for (int first = 0; first < 2; first++) {
+            StringBuilder law = new StringBuilder();
+            for (int line = 0; line < 16; line++) {
+                int depth = line % 8;
+                int value = line / 8 == first ? 9 - depth : (depth + 3) % 8;
+                law.append(words[line / 8 ^ first]).append(' ').append(value).append(" when depth=").append(depth).append(';');
+            }
+            LeftSkate x = made(6, 6, 1);
+            due.lines(x, LAW, law.toString(), 16);
+            for (int depth = 0; depth <= 9; depth++) {
+                x.set(2, 9, depth);
+                due.is(words[0] + " by DEPTH " + depth + " of " + law, x.cut(0, 9), depth > 7 ? 2 : 9 - depth);
+                due.is(words[1] + " by DEPTH " + depth + " of " + law, x.at(9, 3), depth > 7 ? 0 : (depth + 3) % 8);
+            }
+        }
+    }
+
     // "T = U {* U | / NUMBER}"; "2 (at the NUMBER) a part by 0"
     private static void partsByNumbers() {
         LeftSkate x = made(6, 6, 1);
@@ -387,6 +409,26 @@ public final class BoundsTextTest {
             }
         }
         due.is("0-9999 < 0-9998", cutBy(x, "cut 1 when 0-9999<0-9998;", 0), 1);
+    }
+
+    // a fault of the E behind <, = or > is told as one ahead of it, wherever the C stands
+    private static void faultsBehindAComparison() {
+        LeftSkate x = made(6, 6, 1);
+        char[] signs = {'<', '=', '>'};
+        for (char sign : signs) {
+            due.fault(x, LAW, "cut 1 when 1/0" + sign + "1;", 2, 13);
+            due.fault(x, LAW, "cut 1 when 1" + sign + "1/0;", 2, 15);
+            due.fault(x, LAW, "cut 1 when 1" + sign + "1*2/0 and 1=1;", 2, 17);
+            due.fault(x, LAW, "cut 1 when not 1" + sign + "1/0;", 2, 19);
+            due.fault(x, LAW, "cut 1 when (1" + sign + "1/0);", 2, 16);
+            due.fault(x, LAW, "cut 1 when 1=1 or 1" + sign + "1/0;", 2, 22);
+            due.fault(x, LAW, "cut 1 when 1" + sign + ";", 1, 13);
+            due.fault(x, LAW, "cut 1 when 1" + sign + "and 1=1;", 1, 13);
+            due.fault(x, LAW, "cut 1 when 1" + sign + "or 1=1;", 1, 13);
+            due.fault(x, LAW, "cut 1 when (1" + sign + ");", 1, 14);
+            due.fault(x, LAW, "cut 1 when 1" + sign, 1, 13);
+        }
+        due.is("none of them is THE LAW", x.look(9), 0);
     }
 
     // what the grammar has no place for

@@ -13,6 +13,7 @@ public final class BoundsThoughtTest {
         nobodyFallsInThought();
         goesOf0To99();
         goesAsItWillGo();
+        goesByEachFact();
         wantsOf0To99();
         thoughtBeyondMinute9999();
         spoiltWithin99();
@@ -31,11 +32,13 @@ public final class BoundsThoughtTest {
         soonestLesserSkater();
         soonestOfAll();
         beneathBounds();
+        beneathBySight();
         lookAtBounds();
         lookAtOfSeveral();
         whoNobody();
         whoOfSeveral();
         whoSeenAlone();
+        whoWithinTheBox();
         holdsBounds();
         holdsOfSeveral();
         partsBounds();
@@ -292,6 +295,45 @@ public final class BoundsThoughtTest {
             }
             due.is("wants(" + n + ") as it will go", x.wants(n), read);
         }
+    }
+
+    // in thought THE LAW is asked by what is then: DEPTH, LATEST, MINUTE and what is SEEN around
+    private static void goesByEachFact() {
+        String[] laws = {"cut 4 when depth=3;cut 3;", "cut 2 when edge=1;cut 5;", "cut 1 when minute<3;cut 4;", "cut 1 when hand=1;cut 5 when hand=2;",
+            "cut 6 when crossed=1;cut 1;", "cut 6 when around>1;cut 1;", "cut 1+depth;thaw 1 when depth>5;", "cut 3;thaw 1 when around=0;",
+            "cut 9;thaw minute when edge=0;", "cut 4;thaw 2 when depth<4;", "cut 0 when crossed=1;cut 3;"};
+        for (String law : laws) {
+            LeftSkate x = crossing(law);
+            LeftSkate then = crossing(law);
+            for (int n = 0; n <= 10; n++) {
+                for (int sight = 1; sight <= 9; sight++) {
+                    x.set(0, 0, sight);
+                    // around goes by the SIGHT that there is on the way, so each SIGHT goes its own way from the start
+                    due.is("goes(" + n + ") by SIGHT " + sight + " and " + law, x.goes(n), seenThen(then, sight, n));
+                }
+            }
+        }
+    }
+
+    /** Two SKATERS who cross each other's line, then go over their own again; THE IMAGE is how they begin. */
+    private static LeftSkate crossing(String law) {
+        LeftSkate x = new LeftSkate();
+        x.skater(1, 8);
+        x.skater(2, 2);
+        tell(x, 0, "skater 0 east 4 west 4;skater 1 rest 1 south 3 north 3;");
+        tell(x, 1, law);
+        x.image(true);
+        return x;
+    }
+
+    /** The CELLS that are SEEN when n MINUTES have gone by. */
+    private static long seenThen(LeftSkate x, int sight, int n) {
+        x.image(false);
+        x.set(0, 0, sight);
+        if (n > 0) {
+            x.minutes(n);
+        }
+        return x.goes(0);
     }
 
     private static void wantsOf0To99() {
@@ -590,6 +632,28 @@ public final class BoundsThoughtTest {
         due.is("without LETTERS", x.beneath(0, 0), NONE);
     }
 
+    // "just what is SEEN": by the SIGHT that there is
+    private static void beneathBySight() {
+        LeftSkate x = made(6, 6);
+        tell(x, 2, "letter 1 0 0;letter 2 0 0;letter 3 0 0;");
+        x.set(2, 0, 9);
+        x.set(2, 1, 4);
+        for (int sight = 1; sight <= 9; sight++) {
+            x.set(0, 0, sight);
+            due.is("beneath 0 by SIGHT " + sight, x.beneath(0, 0), sight <= 4 ? 2 + 4 : 1);
+            due.is("beneath 1 by SIGHT " + sight, x.beneath(1, 0), sight <= 4 ? 1 + 4 : 0);
+        }
+        // only the nine CELLS of the box: those around it are as they are
+        x.set(0, 0, 1);
+        due.is("beneath 0 at 1", x.beneath(0, 1), 1);
+        for (int cell = 0; cell < 48; cell++) {
+            if (cell % 8 > 2 && cell % 8 < 6 || cell / 8 > 2 && cell % 8 < 6) {
+                x.set(2, cell, 9);
+            }
+        }
+        due.is("beneath 0 whatever is around", x.beneath(0, 0), 2 + 4);
+    }
+
     // "NONE if the set is none of LETTERS, or has fewer than two"
     private static void lookAtBounds() {
         LeftSkate x = made(6, 6);
@@ -682,6 +746,28 @@ public final class BoundsThoughtTest {
         x.set(0, 0, 4);
         due.is("by SIGHT 4 nobody", x.who(0, 0), NONE);
         due.is("by SIGHT 4 none", x.who(0, 1), 0);
+    }
+
+    // "by how many SEEN CELLS in it": each of the nine, none of those around
+    private static void whoWithinTheBox() {
+        for (int at = 0; at < 48; at++) {
+            if (at % 8 > 5) {
+                continue;
+            }
+            // he falls where he is: the one CELL whose LATEST he is
+            LeftSkate x = made(6, 6, at);
+            tell(x, 0, "skater 0 rest 1;");
+            x.set(1, 0, 1000);
+            x.minutes(1);
+            for (int box = 0; box < 32; box++) {
+                if (box % 8 > 3) {
+                    continue;
+                }
+                boolean in = at % 8 >= box % 8 && at % 8 <= box % 8 + 2 && at / 8 >= box / 8 && at / 8 <= box / 8 + 2;
+                due.is("who(" + box + ", 0), cut at " + at, x.who(box, 0), in ? 0 : NONE);
+                due.is("who(" + box + ", 1), cut at " + at, x.who(box, 1), in ? 1 : 0);
+            }
+        }
     }
 
     // "d (1 .. 9)"
